@@ -151,6 +151,11 @@ public final class HalfMinuteTest {
         x.set(0, 20);
         c.due("backs", x.go(0), 2);
         c.due("not behind place 0", x.now(12), 0);
+        x = standing(0, "");
+        x.set(10, 30);
+        x.set(11, 40);
+        x.go(5);
+        c.due("each load 5 less", x.now(10) * 100 + x.now(11), 2535);
         // 98 and 5 more is 99, 99 less 2 is 97: each at once
         x = standing(99, ";hit 0");
         x.set(6, 98);

@@ -58,8 +58,8 @@ public final class ImageTest {
         x.wander(4);
         Check.acts(x, 1, 4, 5);
         x.film(1);
-        x.beast(5);
         x.beast(4);
+        x.beast(5);
         long[] before = all(x);
         c.due("image", x.image(), 1);
         c.dueRow("the image changes nothing", all(x), before);
@@ -95,6 +95,12 @@ public final class ImageTest {
         c.due("a newer image", x.image(), 4);
         x.set(12, 0);
         c.due("the newest image", x.undo(), 4);
+        x = new DonkeyBridge();
+        Check.law(x, "lead 7");
+        x.image();
+        Check.law(x, "lead 8");
+        c.due("undo to the first law", x.undo(), 0);
+        c.due("the first law holds", x.told(3), 7);
         c.end();
     }
 }

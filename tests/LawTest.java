@@ -98,6 +98,17 @@ public final class LawTest {
         good(c, "hit 1;hit 1;hit 1;hit 1;hit 1;hit 1;hit 1;hit 1;hit 1;hit 1");
         good(c, "hit 1;go 1 f=1;look 01");
         DonkeyBridge x = new DonkeyBridge();
+        x.place(0, 0, 0);
+        c.due("a fault far behind", Check.law(x, "lead 9;go 7 a<99;go 8 f=10|f=11;x"), -10 - 32);
+        c.due("a law behind a fault", Check.law(x, "go 1 a<99"), 0);
+        c.due("nothing of the fault is in it", x.told(0) * 100 + x.told(3), 103);
+        for (int i = 0; i < 4; i++) {
+            c.due("a long fault", Check.law(x, "go 1 f=1|f=1|f=1|f=1|f=1|f=1|f=1|f=1|f=1|f=1|f=1|f=1|f=1|f=1;x"), -10 - 61);
+        }
+        String ten = "go 1 a=0&f=10;go 2 a=1|f=11;go 3 a=0;hit 4;go 5 a=0;hit 6;go 7 a=0;hit 8;go 9 a=0;go 50 a=0&!f=11";
+        c.due("a law of ten clauses", Check.law(x, ten), 1);
+        c.due("all ten hold", x.told(0) * 100 + x.told(4), 7508);
+        x = new DonkeyBridge();
         for (int i = 0; i < 6; i++) {
             c.due("law " + i, Check.law(x, "lead " + (20 + i)), i);
             c.due("it holds " + i, x.told(3), 20 + i);

@@ -70,6 +70,11 @@ public final class SearchTest {
         c.due("behind one 0", x.gentlest(2, 0), 0);
         c.due("behind one 1", x.gentlest(2, 1), 4);
         c.due("it asks only", x.now(0) * 100 + x.now(12) * 10 + x.now(14), 1000);
+        x = road(1, "go 5 a<99;lead 0;hit 6");
+        x.set(7, 0);
+        c.due("just goes by a hit: learnt", x.gentlest(1, -1), 55);
+        c.due("just goes by a hit", x.gentlest(1, 0), 7);
+        c.dueRow("just goes by a hit", soonest(x, 1), 1, 7, -5, -5, -5);
         c.due("n 0", x.gentlest(0, 0), -2);
         c.due("n 5", x.gentlest(5, 0), -2);
         c.due("bad ahead of none", x.gentlest(0, 9), -2);

@@ -23,6 +23,13 @@ public final class TapeTest {
         c.due("tape 6", x.judge(6, 0), -1);
         bytes(x, 1, 0, 1, 2, 2, 2);
         c.due("all as told", x.judge(1, 0), -5);
+        x.set(0, 1);
+        Check.law(x, "go 2 a<99");
+        bytes(x, 1, 1);
+        c.due("it just goes", x.judge(1, 0), 101);
+        x.set(0, 10);
+        Check.law(x, "go 0 a<99");
+        bytes(x, 1, 0, 1, 2, 2, 2);
         c.due("place -1", x.judge(1, -1), 100);
         c.due("place low", x.judge(1, LOW), 100);
         c.due("place at the end", x.judge(1, 5), 100);
@@ -120,6 +127,7 @@ public final class TapeTest {
         c.due("nothing, n 99", x.tape(0, -1, 99), 1);
         c.due("nothing, n -9", x.tape(0, -1, -9), 1);
         c.due("nothing is there", x.item(0, 0, 1), -11);
+        c.due("nothing is there to read", x.read(0, 0), NO);
     }
 
     private static DonkeyBridge told() {

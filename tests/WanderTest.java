@@ -151,6 +151,10 @@ public final class WanderTest {
         c.due("what 3", x.string(3), -1);
         c.due("empty then", x.beast(-1), 0);
         c.due("none", x.string(0), -5);
+        x.beast(4);
+        x.beast(9);
+        c.due("the first is the least", x.string(0), 0);
+        x.beast(-1);
         x.beast(0);
         x.set(0, 99);
         Check.law(x, "lead 91");
@@ -211,6 +215,11 @@ public final class WanderTest {
         c.due("backs", film(x, 2), -5);
         x.set(0, 60);
         c.due("sits", film(x, 3), -5);
+        x.set(0, 10);
+        Check.law(x, "go 11 a<99");
+        c.due("it just goes", film(x, 1), -5);
+        Check.law(x, "go 10 a<99");
+        c.due("it just stands", film(x, 0), -5);
         c.due("it asks only", x.now(13) * 10 + x.now(14), 0);
     }
 

@@ -572,7 +572,7 @@ public final class DonkeyBridge {
 
     private static final class Donkey {
         private static final int[] MOST =
-            {99, 99, 99, 99, 99, 99, 99, 99, 99, 9, 99, 99, MOST_PLACES, 1, 1000000};
+            {99, 99, 99, 99, 99, 99, 99, 99, 99, 9, 99, 99, 10, 1, 1000000};
 
         private final int[] numbers = new int[MOST.length];
 
@@ -602,7 +602,8 @@ public final class DonkeyBridge {
         /** Below 0 it is less; kept in its bounds. */
         void addTo(int what, int more) {
             if (what >= 0 && what < numbers.length && what < MOST.length) {
-                numbers[what] = Math.max(0, Math.min(MOST[what], numbers[what] + more));
+                int n = numbers[what] + more;
+                numbers[what] = n < 0 ? 0 : n > MOST[what] ? MOST[what] : n;
             }
         }
 
@@ -672,8 +673,9 @@ public final class DonkeyBridge {
             return all;
         }
 
-        int last(int word, int without) {
-            int n = without;
+        /** The n of the last clause of a word, or what counts without one. */
+        int last(int word) {
+            int n = word == WORD_LEAD ? 3 : word == WORD_HIT ? 5 : word == WORD_LOOK ? 2 : 9;
             for (int i = 0; i < clauses && i < MOST_CLAUSES; i++) {
                 if (words[i] == word) {
                     n = amounts[i];
@@ -851,22 +853,16 @@ public final class DonkeyBridge {
         }
 
         private boolean readSingle(Law out, int depth) {
-            int sign = signs.get(pos);
-            if (sign != '!' && sign != '(') {
-                return readTest(out);
+            int nots = 0;
+            while (depth + nots < DEEPEST && next('!')) {
+                nots++;
             }
-            if (depth >= DEEPEST) {
-                return false;
+            boolean opens = depth + nots < DEEPEST && next('(');
+            boolean isRead = opens ? readEither(out, depth + nots + 1) && next(')') : readTest(out);
+            for (int i = 0; i < nots && isRead; i++) {
+                out.addCode(Law.CODE_NOT);
             }
-            pos++;
-            if (sign == '(') {
-                return readEither(out, depth + 1) && next(')');
-            }
-            if (!readSingle(out, depth + 1)) {
-                return false;
-            }
-            out.addCode(Law.CODE_NOT);
-            return true;
+            return isRead;
         }
 
         private boolean readTest(Law out) {
@@ -903,7 +899,7 @@ public final class DonkeyBridge {
         private Law law;
         /** What the letters of a law tell, in the order of Text.LETTERS. */
         private final int[] facts = new int[9];
-        /** What the latest DRIVE was less by, reason for reason: kept, since WHY asks for it. */
+        /** What the latest DRIVE was less by, in the order of WHY: kept, since that asks for it. */
         private final int[] less = new int[REASONS];
 
         Walk(Road road, Law law) {
@@ -924,16 +920,11 @@ public final class DonkeyBridge {
         }
 
         int lastOf(int word) {
-            switch (word) {
-                case WORD_LEAD: return law.last(word, 3);
-                case WORD_HIT: return law.last(word, 5);
-                case WORD_LOOK: return law.last(word, 2);
-                default: return law.last(WORD_FORD, 9);
-            }
+            return law.last(word);
         }
 
         int halfMinutesOf(int act) {
-            return act == ACT_FORD ? Math.max(1, lastOf(WORD_FORD)) : 1;
+            return act == ACT_FORD ? Math.max(1, law.last(WORD_FORD)) : 1;
         }
 
         int togetherOf(Donkey d, int word) {
@@ -979,9 +970,9 @@ public final class DonkeyBridge {
 
         private int moreBy(Donkey d, int act) {
             switch (act) {
-                case ACT_LEAD: return lastOf(WORD_LEAD);
+                case ACT_LEAD: return law.last(WORD_LEAD);
                 case ACT_FEED: return d.get(HUNGER) / 2;
-                case ACT_HIT: return lastOf(WORD_HIT);
+                case ACT_HIT: return law.last(WORD_HIT);
                 case ACT_BACK: return -20;
                 default: return 0;
             }
@@ -1067,7 +1058,7 @@ public final class DonkeyBridge {
                     break;
                 case STANDS:
                     if (act != ACT_HIT) {
-                        d.addTo(thing, -lastOf(WORD_LOOK));
+                        d.addTo(thing, -law.last(WORD_LOOK));
                         d.addTo(LOOKS, 1);
                     }
                     d.put(SITS, 0);
@@ -1258,41 +1249,55 @@ public final class DonkeyBridge {
             return i >= 0 && i < bestSize && i < best.length ? best[i] : NEVER;
         }
 
-        /** The rows come in order, so the first of its size stays; none as long as the best is looked at. */
         private void trySooner(int depth) {
             for (int act = ACT_WAIT; act <= ACT_HIT; act++) {
-                if (depth < 0 || depth >= tried.length || depth + 1 >= bestSize) {
-                    return;
-                }
                 if (act != ACT_FORD) {
-                    Donkey d = stageAfter(depth);
-                    walk.step(d, act, 0);
-                    tried[depth] = act;
-                    if (d.get(AT) == goal) {
-                        keepTried(depth + 1);
-                    } else {
-                        trySooner(depth + 1);
-                    }
+                    trySoonerWith(depth, act);
                 }
             }
         }
 
+        /** The rows come in order, so the first of its size stays: none as long as the best is looked at. */
+        private void trySoonerWith(int depth, int act) {
+            if (depth < 0 || depth >= tried.length || depth + 1 >= bestSize) {
+                return;
+            }
+            Donkey d = stageAfter(depth);
+            walk.step(d, act, 0);
+            tried[depth] = act;
+            if (d.get(AT) == goal) {
+                keepTried(depth + 1);
+            } else {
+                trySooner(depth + 1);
+            }
+        }
+
         private void tryGentler(int depth, int n) {
-            if (depth < 0 || depth >= n || depth >= tried.length) {
-                Donkey behind = stage(depth);
-                int learnt = behind.learnt();
-                if (behind.get(AT) >= goal && (bestSize == NEVER || learnt < bestLearnt)) {
-                    bestLearnt = learnt;
-                    keepTried(n);
-                }
+            if (depth >= n) {
+                keepGentler(stage(depth), n);
                 return;
             }
             for (int act = ACT_WAIT; act <= ACT_HIT; act++) {
                 if (act != ACT_FORD) {
-                    walk.step(stageAfter(depth), act, 0);
-                    tried[depth] = act;
-                    tryGentler(depth + 1, n);
+                    tryGentlerWith(depth, n, act);
                 }
+            }
+        }
+
+        private void tryGentlerWith(int depth, int n, int act) {
+            if (depth < 0 || depth >= tried.length) {
+                return;
+            }
+            walk.step(stageAfter(depth), act, 0);
+            tried[depth] = act;
+            tryGentler(depth + 1, n);
+        }
+
+        private void keepGentler(Donkey behind, int n) {
+            int learnt = behind.learnt();
+            if (behind.get(AT) >= goal && (bestSize == NEVER || learnt < bestLearnt)) {
+                bestLearnt = learnt;
+                keepTried(n);
             }
         }
 
@@ -1328,12 +1333,13 @@ public final class DonkeyBridge {
             if (depth >= n || depth >= LONGEST_CHANCE) {
                 return stage(depth).get(AT) >= goal ? 1 : 0;
             }
-            int act = present.acts.get(depth);
-            int odds = act == ACT_FORD ? 0 : present.odds;
-            walk.step(stageAfter(depth), act, 0);
-            long ways = (WORST_ODDS - odds) * waysFrom(depth + 1, n);
-            walk.step(stageAfter(depth), act, WANDERING);
-            return ways + odds * waysFrom(depth + 1, n);
+            int odds = present.acts.get(depth) == ACT_FORD ? 0 : present.odds;
+            return (WORST_ODDS - odds) * waysWith(depth, n, 0) + odds * waysWith(depth, n, WANDERING);
+        }
+
+        private long waysWith(int depth, int n, int wandering) {
+            walk.step(stageAfter(depth), present.acts.get(depth), wandering);
+            return waysFrom(depth + 1, n);
         }
     }
 
@@ -1399,27 +1405,30 @@ public final class DonkeyBridge {
             return 0;
         }
 
-        /** A body, looked for from a KIND on; the depth is how many stand open. */
+        /** The body of a KIND, or of the next above; the depth is how many stand open. */
         private int run(int from, int part, int x, int depth) {
-            int body = bodyOf(from, part);
             if (depth >= DEEPEST) {
                 return 0;
             }
+            int body = bodyOf(from, part);
             ran++;
             numbers.add(body);
-            int deeper = depth + 1;
+            return answer(body, x, depth + 1);
+        }
+
+        private int answer(int body, int x, int depth) {
             switch (body) {
                 case 10: return x + number;
-                case 11: return run(kind, HOLDS, x, deeper) - v;
-                case 12: return run(kind, CHOOSES, x, deeper) * 2;
-                case 20: return run(KIND_STAND, CHOOSES, x, deeper) ^ 6;
-                case 30: return run(KIND_STAND, HOLDS, x * 3, deeper);
-                case 40: return run(KIND_STAND, TELLS, x, deeper) + run(kind, CHOOSES, 1, deeper);
-                case 50: return -run(KIND_FEARED, HOLDS, x, deeper);
-                case 51: return run(KIND_FEARED, CHOOSES, x + 1, deeper);
-                case 60: return run(KIND_SORE, TELLS, x - number, deeper);
-                case 70: return run(KIND_SPOILT, CHOOSES, x, deeper) + run(KIND_SPOILT, HOLDS, 2, deeper);
-                case 71: return run(KIND_SPOILT, HOLDS, x, deeper) ^ v;
+                case 11: return run(kind, HOLDS, x, depth) - v;
+                case 12: return run(kind, CHOOSES, x, depth) * 2;
+                case 20: return run(KIND_STAND, CHOOSES, x, depth) ^ 6;
+                case 30: return run(KIND_STAND, HOLDS, x * 3, depth);
+                case 40: return run(KIND_STAND, TELLS, x, depth) + run(kind, CHOOSES, 1, depth);
+                case 50: return -run(KIND_FEARED, HOLDS, x, depth);
+                case 51: return run(KIND_FEARED, CHOOSES, x + 1, depth);
+                case 60: return run(KIND_SORE, TELLS, x - number, depth);
+                case 70: return run(KIND_SPOILT, CHOOSES, x, depth) + run(KIND_SPOILT, HOLDS, 2, depth);
+                case 71: return run(KIND_SPOILT, HOLDS, x, depth) ^ v;
                 default: return 0;
             }
         }
