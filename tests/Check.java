@@ -1,6 +1,10 @@
+import java.util.Map;
+
 /** What a test says of the answers it gets: each that is not the one due, and how many. */
 final class Check {
     private final String name;
+    private String sentence = "";
+    private int lookedBefore;
     private int wrong;
     private int looked;
 
@@ -12,8 +16,17 @@ final class Check {
         looked++;
         if (got != want) {
             wrong++;
-            System.out.println(name + ": " + call + " answered " + got + ", due is " + want);
+            System.out.println(name + ": " + sentence + call + " answered " + got + ", due is " + want);
         }
+    }
+
+    /** What follows looks at this sentence of the document; the one ahead of it must have been looked at. */
+    void about(String words) {
+        if (!sentence.isEmpty() && looked == lookedBefore) {
+            due("how often it was looked at", 0, 1);
+        }
+        sentence = "\"" + words + "\": ";
+        lookedBefore = looked;
     }
 
     /** The answers of one call told with 0, 1, 2 and so on. */
@@ -21,6 +34,14 @@ final class Check {
         due(call + ", how many", got.length, want.length);
         for (int i = 0; i < Math.min(got.length, want.length); i++) {
             due(call + "[" + i + "]", got[i], want[i]);
+        }
+    }
+
+    /** What was looked at, each answer by its name: all as due. */
+    void dueAll(String call, Map<String, Long> got, Map<String, Long> want) {
+        due(call + ", how many", got.size(), want.size());
+        for (Map.Entry<String, Long> w : want.entrySet()) {
+            due(call + ": " + w.getKey(), got.getOrDefault(w.getKey(), -77L), w.getValue());
         }
     }
 
@@ -37,6 +58,26 @@ final class Check {
             x.feed(text.charAt(i));
         }
         return x.law();
+    }
+
+    /** A road under a law (none, if that is empty): of each place its kind, v and thing. */
+    static DonkeyBridge road(String law, int... places) {
+        DonkeyBridge x = new DonkeyBridge();
+        for (int i = 0; i + 2 < places.length; i += 3) {
+            x.place(places[i], places[i + 1], places[i + 2]);
+        }
+        if (!law.isEmpty()) {
+            law(x, law);
+        }
+        return x;
+    }
+
+    /** Sets several numbers: what, n, what, n and so on. */
+    static DonkeyBridge with(DonkeyBridge x, int... set) {
+        for (int i = 0; i + 1 < set.length; i += 2) {
+            x.set(set[i], set[i + 1]);
+        }
+        return x;
     }
 
     static void acts(DonkeyBridge x, int... acts) {

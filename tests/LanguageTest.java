@@ -1,13 +1,18 @@
 import java.io.IOException;
+import java.lang.reflect.Field;
+import java.lang.reflect.Method;
+import java.lang.reflect.Modifier;
 import java.nio.file.Files;
 import java.nio.file.Path;
+import java.util.HashSet;
+import java.util.Set;
 import java.util.regex.Matcher;
 import java.util.regex.Pattern;
 
 /** Looks at the source for what ../shared/LANGUAGE.md rules out, as far as a text tells it. */
 public final class LanguageTest {
     private static final Path SOURCE = Path.of("src/main/java/DonkeyBridge.java");
-    private static final int LONGEST_METHOD = 60, MOST_CLASSES = 12, MOST_PARAMETERS = 7;
+    private static final int LONGEST_METHOD = 60, MOST_CLASSES = 12, MOST_PARAMETERS = 7, MOST_FIELDS = 20;
     private static final String[] RULED_OUT = {
         "\\bthrow\\b", "\\bthrows\\b", "\\btry\\b", "\\bcatch\\b", "\\bfinally\\b", "\\bsynchronized\\b",
         "\\bassert\\b", "->", "::", "\\bpackage\\b", "\\bprotected\\b", "\\bvolatile\\b", "\\bnative\\b",
@@ -54,6 +59,37 @@ public final class LanguageTest {
         return open;
     }
 
+    /** What the compiled classes tell: rules 1, 2, 5, 6 and 11. */
+    private static void lookAtClasses(Check c) {
+        Set<String> open = new HashSet<>();
+        for (Method m : DonkeyBridge.class.getDeclaredMethods()) {
+            if (Modifier.isPublic(m.getModifiers())) {
+                open.add(m.getName());
+            }
+        }
+        lookAtClass(c, DonkeyBridge.class, open);
+        for (Class<?> k : DonkeyBridge.class.getDeclaredClasses()) {
+            c.due("a class inside is static: " + k, Modifier.isStatic(k.getModifiers()) ? 1 : 0, 1);
+            c.due("a class inside has none inside: " + k, k.getDeclaredClasses().length, 0);
+            lookAtClass(c, k, open);
+        }
+    }
+
+    private static void lookAtClass(Check c, Class<?> k, Set<String> open) {
+        int fields = 0;
+        for (Field f : k.getDeclaredFields()) {
+            boolean isStatic = Modifier.isStatic(f.getModifiers());
+            fields += isStatic ? 0 : 1;
+            c.due("a static field is final: " + f, isStatic && !Modifier.isFinal(f.getModifiers()) ? 1 : 0, 0);
+        }
+        c.due("fields above the most: " + k, Math.max(0, fields - MOST_FIELDS), 0);
+        for (Method m : k.getDeclaredMethods()) {
+            boolean isOpen = Modifier.isPublic(m.getModifiers());
+            c.due("it bears the name of a public one: " + m, !isOpen && open.contains(m.getName()) ? 1 : 0, 0);
+            c.due("it is no equals, hashCode, toString: " + m, m.getName().matches("equals|hashCode|toString") ? 1 : 0, 0);
+        }
+    }
+
     public static void main(String[] args) throws IOException {
         Check c = new Check("LanguageTest");
         String source = Files.readString(SOURCE);
@@ -69,6 +105,7 @@ public final class LanguageTest {
         c.due("parameters above the most", Math.max(0, mostParameters(code) - MOST_PARAMETERS), 0);
         c.due("it finds parameters", mostParameters(code) >= 5 ? 1 : 0, 1);
         c.due("open static fields", openStatics(code), 0);
+        lookAtClasses(c);
         c.end();
     }
 }
